@@ -1353,6 +1353,7 @@ public final class LowNumber {
         private static final int SPARES_LINE = 4;
         private static final int DOCTOR_LINE = 5;
         private static final int WENT_LINE = 6;
+        private static final int NAME = 7;
 
         private static final int LONGEST_WORD = 8;
         private static final int LONGEST_WHOLE = 3;
@@ -1452,7 +1453,7 @@ public final class LowNumber {
 
         private boolean readLine(Draft draft) {
             int line = lineKind();
-            if (line == NO_LINE) {
+            if (line == NO_LINE || line == NAME) {
                 return fail(FORM);
             }
             if (line != DRAFT_LINE && !told) {
@@ -1474,8 +1475,11 @@ public final class LowNumber {
             }
         }
 
-        /** The line that the word begins; no such word can be a name. */
+        /** The line that the word here begins, or NAME: a word that begins a line can't be a name. */
         private int lineKind() {
+            if (kind != WORD) {
+                return NO_LINE;
+            }
             if (isWord("draft")) {
                 return DRAFT_LINE;
             }
@@ -1491,7 +1495,7 @@ public final class LowNumber {
             if (isWord("doctor")) {
                 return DOCTOR_LINE;
             }
-            return isWord("went") ? WENT_LINE : NO_LINE;
+            return isWord("went") ? WENT_LINE : NAME;
         }
 
         private boolean readTakes(Draft draft) {
@@ -1513,7 +1517,7 @@ public final class LowNumber {
                 return fail(MANY);
             }
             step();
-            if (!isName()) {
+            if (lineKind() != NAME) {
                 return fail(FORM);
             }
             if (namedMan(draft) >= 0) {
@@ -1659,13 +1663,9 @@ public final class LowNumber {
             return true;
         }
 
-        private boolean isName() {
-            return kind == WORD && lineKind() == NO_LINE;
-        }
-
         /** Looks for the man named here; he is the value then. */
         private boolean isToldMan(Draft draft) {
-            if (!isName()) {
+            if (lineKind() != NAME) {
                 return fail(FORM);
             }
             value = namedMan(draft);
