@@ -30,6 +30,9 @@ public final class LowNumberPromises {
     undo();
     images();
     told();
+    draftsInTurn();
+    afterActs();
+    sixMen();
     System.out.println(asked + " answers, " + wrong + " are not as due");
     if (wrong != 0) System.exit(1);
   }
@@ -145,6 +148,7 @@ public final class LowNumberPromises {
     refused(x, "surelyTaken", x.surelyTaken(), 1);
     refused(x, "believed", x.believed(true, true), 1);
     refused(x, "wrong", x.wrong(true), 1);
+    x.undo();
     is("agent", x.agent(100, 0, 0, true), -100);
     trouble(x, 1);
     refused(x, "rests", x.rests(100), 1);
@@ -196,6 +200,10 @@ public final class LowNumberPromises {
     is("draft", x.draft(THREE.length()), 3);
     trouble(x, 0);
     is("tape is empty", x.size(9), 0);
+    feedText(x, THREE + "9;spares lame");
+    is("the first bytes alone", x.draft(THREE.length()), 3);
+    is("asks", x.man(2, 3), 0);
+    is("spared", x.spared(), 0);
     x.seed(7);
     x.hold();
     x.marry(0);
@@ -288,6 +296,10 @@ public final class LowNumberPromises {
     fault("draft takes 2;man a tall", 1, 20);
     fault("draft takes 2;man a plain coins", 1, 26);
     fault(a + " ;", 1, end + 2);
+    fault(a + "@", 1, end);
+    fault(a + (char) 0, 1, end);
+    fault(a + ";can", 1, end + 1);
+    fault(a + ";pin a a", 1, end + 1);
     fault(a + ";kin a", 1, end + 6);
     fault(a + ";kin a;", 1, end + 6);
     fault(a + ";kin went", 1, end + 5);
@@ -457,6 +469,10 @@ public final class LowNumberPromises {
     part("ruin(7, 1)", x.ruin(7, 1, false), x.ruin(7, 1, true), 1, 1);
     part("ruin(7, 8)", x.ruin(7, 8, false), x.ruin(7, 8, true), 0, 1);
     part("ruin(7, 999)", x.ruin(7, 999, false), x.ruin(7, 999, true), 0, 1);
+    part("ruin(1, 0)", x.ruin(1, 0, false), x.ruin(1, 0, true), 1, 3);
+    x.undo();
+    is("ruin", x.ruin(1, 0, true), 3);
+    trouble(x, 0);
     refused(x, "ruin(7, 1000)", x.ruin(7, 1000, true), 2);
     refused(x, "ruin(7, -1)", x.ruin(7, -1, true), 2);
     refused(x, "ruin(0, 1000)", x.ruin(0, 1000, true), 1);
@@ -712,6 +728,8 @@ public final class LowNumberPromises {
     is("at a loss of one", x.agent(1, 0, 6, false), -1);
     trouble(x, 0);
     is("nobody buys", x.agent(0, 9, 9, false), 0);
+    is("the other one at a loss", x.agent(2, 6, 0, true), -2);
+    is("none left for the one", x.agent(2, 6, 0, false), 0);
     int[][] bad = {{-1, 0, 0}, {100, 0, 0}, {0, -1, 0}, {0, 10, 0}, {0, 0, -1}, {0, 0, 10}};
     for (int[] b : bad) {
       is("agent", x.agent(b[0], b[1], b[2], false), -100);
@@ -746,6 +764,7 @@ public final class LowNumberPromises {
     int[] want = {1, 2, 1};
     for (int m = 0; m < 3; m++) is("drafts " + m, x.drafts(m, 0, 4), want[m]);
     trouble(x, 0);
+    is("one draft", x.drafts(1, 0, 1), 1);
     is("a seed that stays", x.drafts(2, 65536, 90), 90);
     refused(x, "drafts(3)", x.drafts(3, -1, 0), 1);
     refused(x, "seed -1", x.drafts(0, -1, 1), 2);
@@ -1006,5 +1025,142 @@ public final class LowNumberPromises {
     x.spare(9, true);
     for (int i = 0; i < 41; i++) x.feed(0, 0, 0, 0, 0);
     trouble(x, 2);
+  }
+
+  /** A text leaves nothing of those read before it, good ones or not. */
+  private static void draftsInTurn() {
+    promise(3);
+    LowNumber x = new LowNumber();
+    String full = THREE + ";kin a b;kin a c;spares lame;doctor hits 1 errs 1 share 1;went a;went b";
+    for (int turn = 0; turn < 3; turn++) {
+      is("full", draft(x, full), 3);
+      is("kin", x.size(2), 2);
+      is("kin of a", x.man(0, 4), 6);
+      is("one man", draft(x, "draft takes 0;man z short worth 1 coins 2 asks 3"), 1);
+      is("takes", x.size(0), 0);
+      is("kin", x.size(2), 0);
+      is("doctor", x.size(3), 0);
+      is("went", x.size(4), 0);
+      is("kin of z", x.man(0, 4), 0);
+      is("spared", x.spared(), 0);
+      is("rows", x.rows(), 1);
+      refused(x, "could", x.could(0), 1);
+      part("taken", x.taken(0, false), x.taken(0, true), 0, 1);
+      refused(x, "a text with a fault", draft(x, full + ";man"), 4);
+      is("the draft stays", x.man(0, 0), 2);
+    }
+    is("a row of one man", x.takenBy(0), 0);
+    trouble(x, 0);
+  }
+
+  /** What was worked out ahead of an act isn't told behind it. */
+  private static void afterActs() {
+    LowNumber x = with(THREE);
+    promise(42);
+    part("loss(0)", x.loss(0, false), x.loss(0, true), 2, 3);
+    x.marry(2);
+    // c asks 0, and goes for a
+    part("loss(0) with c to be had", x.loss(0, false), x.loss(0, true), 0, 1);
+    promise(49);
+    part("harm(2)", x.harm(2, false), x.harm(2, true), 0, 1);
+    x.undo();
+    part("loss(0) as it was", x.loss(0, false), x.loss(0, true), 2, 3);
+    part("harm(2) as it was", x.harm(2, false), x.harm(2, true), 4, 1);
+    is("fills(9)", x.fills(9), 0);
+    x.marry(2);
+    is("fills(9), he is lame no more", x.fills(9), 1);
+    x.undo();
+    is("fills(9)", x.fills(9), 0);
+    promise(51);
+    x.image();
+    x.spare(0, true);
+    part("taken(2)", x.taken(2, false), x.taken(2, true), 1, 1);
+    x.back(0);
+    part("taken(2)", x.taken(2, false), x.taken(2, true), 1, 3);
+    promise(44);
+    for (int i = 0; i < 4; i++) {
+      x.seed(1);
+      x.hold();
+      x.loss(0, true);
+    }
+    // a has 1 coin left: he can't pay b any more
+    part("loss(0)", x.loss(0, false), x.loss(0, true), 10, 3);
+    promise(27);
+    is("toSpare without a call of harm ahead", with(THREE).toSpare(), 0);
+    is("toSpare the short one", with("draft takes 1;man a plain worth 5 coins 0 asks 1;man b short worth 9 coins 0 asks 1").toSpare(), 2);
+    promise(25);
+    is("fills without a call of harm ahead", with(THREE).fills(0), 1);
+    promise(26);
+    is("bestLaw where nobody loses", with("draft takes 0;man a plain worth 9 coins 9 asks 9").bestLaw(), 0);
+    promise(47);
+    x = with(THREE);
+    x.seed(65536);
+    x.hold();
+    is("lot(0)", x.lot(0), 2);
+    is("lot(1)", x.lot(1), 0);
+    is("lot(2)", x.lot(2), 1);
+    x.seed(1);
+    x.hold();
+    is("lot(0)", x.lot(0), 0);
+    x.undo();
+    is("lot(0) as it was", x.lot(0), 2);
+    promise(44);
+    x = with("draft takes 1;man a married worth 9 coins 9 asks 2;man b plain worth 8 coins 7 asks 3;spares married;went a");
+    is("man 0 goes for the other one", x.hold(), 1);
+    is("he pays", x.man(1, 2), 5);
+    is("fate(1)", x.fate(1), 2);
+    is("fate(0)", x.fate(0), 3);
+    is("led(0)", x.led(0), 0);
+    promise(13);
+    is("lossBy(10, 1)", x.lossBy(10, 1), 2);
+    promise(16);
+    part("goes(1)", x.goes(1, false), x.goes(1, true), 0, 1);
+    promise(18);
+    part("loss(1)", x.loss(1, false), x.loss(1, true), 2, 1);
+    promise(29);
+    is("could(0)", x.could(0), 2);
+    promise(45);
+    is("desert(0)", x.desert(0), 1);
+  }
+
+  private static void sixMen() {
+    StringBuilder s = new StringBuilder("draft takes 5");
+    for (char c = 'a'; c <= 'f'; c++) s.append(";man ").append(c).append(" plain worth ").append(c - 'a' + 1).append(" coins 0 asks 1");
+    LowNumber x = with(s.toString());
+    promise(15);
+    part("taken(5)", x.taken(5, false), x.taken(5, true), 5, 6);
+    promise(18);
+    part("loss(5)", x.loss(5, false), x.loss(5, true), 5, 1);
+    promise(24);
+    part("harm(0)", x.harm(0, false), x.harm(0, true), 35, 2);
+    promise(20);
+    // who is left out loses nothing: 21 less his worth
+    part("ruin(63, 17)", x.ruin(63, 17, false), x.ruin(63, 17, true), 1, 2);
+    promise(28);
+    is("rows", x.rows(), 720);
+    promise(14);
+    is("firstTaken(5)", x.firstTaken(5), 12354);
+    is("firstTaken(4)", x.firstTaken(4), 12345);
+    promise(22);
+    part("shortOf", x.shortOf(false), x.shortOf(true), 0, 1);
+    promise(15);
+    x = with(s.toString().replace("takes 5", "takes 1"));
+    part("taken(5)", x.taken(5, false), x.taken(5, true), 1, 6);
+    x = with(s.toString().replace("takes 5", "takes 1").replace(";man f plain", ";man f lame") + ";spares lame");
+    part("taken(4)", x.taken(4, false), x.taken(4, true), 1, 5);
+    promise(33);
+    // of two rows but one fits: b ahead of a
+    x = with("draft takes 1;man a plain worth 1 coins 1 asks 1;man b plain worth 9 coins 9 asks 1;went a");
+    is("surelyTaken", x.surelyTaken(), 2);
+    promise(28);
+    is("rows", x.rows(), 1);
+    promise(29);
+    is("could(0)", x.could(0), 2);
+    promise(30);
+    is("surely(0)", x.surely(0), 1);
+    promise(31);
+    is("ask()", x.ask(), 0);
+    promise(32);
+    is("askLeaves()", x.askLeaves(), 1);
   }
 }
