@@ -515,22 +515,14 @@ public final class LowNumber {
     // ---- drafts by draws
 
     public int drafts(int m, int seed, int n) {
-        if (!isMan(m)) {
-            return refuse(NO_SUCH);
-        }
-        if (!isSeed(seed) || !isDrafts(n)) {
-            return refuse(BAD_NUMBER);
-        }
-        int count = 0;
-        int going = seed;
-        for (int i = 0; i < n; i++) {
-            going = levyByDraws(going);
-            count += levy.takenBits >> m & 1;
-        }
-        return answer(count);
+        return countDraws(m, seed, n, false);
     }
 
     public int sentIn(int m, int seed, int n) {
+        return countDraws(m, seed, n, true);
+    }
+
+    private int countDraws(int m, int seed, int n, boolean sent) {
         if (!isMan(m)) {
             return refuse(NO_SUCH);
         }
@@ -541,7 +533,7 @@ public final class LowNumber {
         int going = seed;
         for (int i = 0; i < n; i++) {
             going = levyByDraws(going);
-            count += levy.sentBits >> m & 1;
+            count += (sent ? levy.sentBits : levy.takenBits) >> m & 1;
         }
         return answer(count);
     }
