@@ -102,6 +102,11 @@ public final class LowNumberEdges {
     }
   }
 
+  /** What follows in a test that goes through several promises is of this one. */
+  private static void of(int number) {
+    promise = number;
+  }
+
   private static void is(String call, boolean got, boolean want) {
     is(call, got ? 1 : 0, want ? 1 : 0);
   }
@@ -354,6 +359,13 @@ public final class LowNumberEdges {
     fault(1, 0, "7");
     fault(1, 6, "draft take 1");
     fault(1, 6, "draft takesa 1");
+    fault(1, 6, "draft wakes 1");
+    fault(1, 6, "draft taxes 1");
+    fault(1, 0, "craft takes 1");
+    for (String word : new String[] {"mat", "pan", "fin", "kit", "shares", "spared", "proctor", "doctors", "bent", "wend"}) {
+      fault(1, ONE.length() + 1, ONE + ";" + word + " a");
+    }
+    fault(1, ONE.length() + 8, ONE + ";spares fame");
     fault(1, 20, "draft takes 1;man a tall worth 5");
     fault(1, 20, "draft takes 1;man a worth 5");
     fault(1, 26, "draft takes 1;man a plain coins 5");
@@ -662,6 +674,29 @@ public final class LowNumberEdges {
     for (int men = 1; men <= 6; men++) is("men", read(x, text(1, Arrays.copyOf(sixLines(), men))), men);
   }
 
+  @Edge(promise = 3, says = "are the DRAFT from now on")
+  static void nothingIsLeftOfTextsBefore() {
+    String full = text(5, "a plain 9 9 9", "b lame 9 9 9", "kin a b", "spares lame", "doctor hits 1 errs 1 share 1", "went a", "went b");
+    LowNumber x = new LowNumber();
+    for (int turn = 0; turn < 4; turn++) {
+      is("a full text", read(x, full), 2);
+      x.hold();
+      is("a full text with a fault", read(x, full + ";"), -1);
+      is("a short text", read(x, text(0, "a plain 9 9 9", "b lame 9 9 9")), 2);
+      int[] want = {0, 2, 0, 0, 0, 0, 0, 0, 0, 0};
+      for (int what = 0; what < 10; what++) is("size " + what, x.size(what), want[what]);
+      is("spared()", x.spared(), 0);
+      is("kin of a", x.man(0, 4), 0);
+      is("kin of b", x.man(1, 4), 0);
+      for (int m = 0; m < 2; m++) is("fate " + m, x.fate(m), 0);
+      is("rows()", x.rows(), 2);
+      is("could(0)", x.could(0), -1);
+      is("no doctor", x.wrong(true), -1);
+      part("taken", x.taken(0, false), x.taken(0, true), 0, 1);
+      is("fills(15)", x.fills(15), 1);
+    }
+  }
+
   @Edge(promise = 3, says = "4 (the DRAFT stays).")
   static void aFaultLeavesTheDraft() {
     LowNumber x = told(1, "a plain 10 9 3", "b plain 8 2 2", "c lame 7 7 0", "kin a c", "doctor hits 50 errs 1 share 1", "went b", "spares short");
@@ -819,6 +854,12 @@ public final class LowNumberEdges {
     fine(x);
     refusedOutside(x, 3, 1, x::wouldGo);
     is("nobody else", told(5, "a plain 99 200 0").wouldGo(0), -2);
+    is("as many coins", told(1, "a plain 99 7 0", "b plain 0 0 7").wouldGo(0), 1);
+    is("a coin too few", told(1, "a plain 99 6 0", "b plain 0 0 7").wouldGo(0), -2);
+    is("less than his worth", told(1, "a plain 8 99 0", "b plain 0 0 7").wouldGo(0), 1);
+    is("his worth", told(1, "a plain 7 99 0", "b plain 0 0 7").wouldGo(0), -2);
+    is("of like ones the first", told(1, "a plain 9 9 0", "b plain 9 9 5", "c plain 9 9 4", "d plain 9 9 4").wouldGo(0), 2);
+    is("a lame one", told(1, "a plain 9 9 0", "b lame 0 0 0").wouldGo(0), -2);
     is("kin, spared or not, in whatever number are taken", told(0, "a plain 9 9 9", "b married 9 9 1", "kin a b", "spares plain").wouldGo(0), 1);
     is("the sixth", told(1, "a plain 9 9 9", "b lame 9 9 1", "c plain 9 9 9", "d plain 9 9 9", "e plain 9 9 9", "f plain 9 9 8").wouldGo(0), 5);
   }
@@ -929,6 +970,56 @@ public final class LowNumberEdges {
     y.marry(1);
     is("he isn't lame NOW", y.sendsBy(1, 0), 1);
     is("one who is spared", told(1, "a plain 50 50 0", "b married 1 0 0", "kin a b", "spares married").sendsBy(1, 0), 1);
+  }
+
+  /** b sends a, whose number is 0. */
+  private static LowNumber firstIsSent() {
+    return told(2, "a married 9 9 2", "b plain 9 5 9", "c lame 9 5 9", "spares married", "went a");
+  }
+
+  @Edge(promise = 12, says = "each SENDS another one, if he can")
+  static void manZeroIsSent() {
+    LowNumber x = firstIsSent();
+    is("b sends a", x.sendsBy(12, 1), 0);
+    is("a is sent already", x.sendsBy(12, 2), -2);
+    is("c sends a", x.sendsBy(210, 2), 0);
+    is("a is sent already", x.sendsBy(210, 1), -2);
+    of(9);
+    is("wouldGo", x.wouldGo(1), 0);
+    of(11);
+    is("a and c go", x.goesBy(12), 5);
+    of(13);
+    is("what b pays", x.lossBy(12, 1), 2);
+    is("c's worth", x.lossBy(12, 2), 9);
+    of(16);
+    part("a goes surely", x.goes(0, false), x.goes(0, true), 1, 1);
+    part("b by half", x.goes(1, false), x.goes(1, true), 1, 2);
+    of(17);
+    part("a for b", x.goesFor(0, 1, false), x.goesFor(0, 1, true), 1, 2);
+    of(18);
+    part("loss of b", x.loss(1, false), x.loss(1, true), 11, 2);
+    of(29);
+    is("could(0)", x.could(0), 6);
+    of(40);
+    is("sentIn", x.sentIn(0, 0, 90), 90);
+    is("not sentIn", x.sentIn(1, 0, 90), 0);
+    of(41);
+    is("lossIn", x.lossIn(0, 90), 990);
+    of(44);
+    int goes = x.hold();
+    int sender = goes == 5 ? 1 : 2;
+    is("a goes and one of b, c", goes == 5 || goes == 3, true);
+    is("he has paid", x.man(sender, 2), 3);
+    is("the other one hasn't", x.man(3 - sender, 2), 5);
+    of(46);
+    is("sent", x.fate(0), 3);
+    is("sends", x.fate(sender), 2);
+    is("goes", x.fate(3 - sender), 1);
+    of(52);
+    is("led(0)", x.led(0), 0);
+    is("led(1)", x.led(1), 3 - sender);
+    of(45);
+    is("desert(0)", x.desert(0), sender);
   }
 
   @Edge(promise = 12, says = "who asks no more than he has coins NOW and less than his worth")
@@ -1053,6 +1144,8 @@ public final class LowNumberEdges {
     refusedOutside(y, 3, 1, m -> y.goesFor(0, m, false));
     LowNumber z = told(1, "a plain 9 9 0", "b married 9 9 0", "spares married");
     part("surely", z.goesFor(1, 0, false), z.goesFor(1, 0, true), 1, 1);
+    LowNumber all = six(5);
+    part("never, of six", all.goesFor(5, 0, false), all.goesFor(5, 0, true), 0, 1);
   }
 
   @Edge(promise = 18, says = "MEAN LOSS of one: what his insurance is worth, likewise. -1: 1.")
@@ -1108,6 +1201,10 @@ public final class LowNumberEdges {
     LowNumber most = told(5, "a plain 99 0 9", "b plain 99 0 9", "c plain 99 0 9", "d plain 99 0 9", "e plain 99 0 9");
     part("495", most.ruin(31, 494, false), most.ruin(31, 494, true), 1, 1);
     part("495", most.ruin(31, 495, false), most.ruin(31, 495, true), 0, 1);
+    // all of 21 but the worth of the one who is left out
+    LowNumber all = six(5);
+    int[][] of = {{14, 1, 1}, {15, 5, 6}, {16, 2, 3}, {17, 1, 2}, {18, 1, 3}, {19, 1, 6}, {20, 0, 1}};
+    for (int[] w : of) part("ruin(63, " + w[0] + ")", all.ruin(63, w[0], false), all.ruin(63, w[0], true), w[1], w[2]);
   }
 
   @Edge(promise = 21, says = "added to a CLUB (0: nobody yet), each would pay least on the mean, the first such; -2 all are in it.")
@@ -1286,6 +1383,54 @@ public final class LowNumberEdges {
     LowNumber y = pair("e", "d");
     y.spare(0, true);
     is("by the law NOW", y.rows(), 0);
+  }
+
+  @Edge(promise = 28, says = "WENT: ROWS by which all that were told are SENT: all that fit.")
+  static void oneRowFits() {
+    // b ahead of a: b sends a; a can't send b, who asks as much as a is worth
+    LowNumber x = told(1, "a plain 1 1 1", "b plain 9 9 1", "went a");
+    is("rows()", x.rows(), 1);
+    is("again", x.rows(), 1);
+    of(29);
+    is("could(0)", x.could(0), 2);
+    of(30);
+    is("surely(0)", x.surely(0), 1);
+    of(31);
+    is("ask()", x.ask(), 0);
+    of(32);
+    is("askLeaves()", x.askLeaves(), 1);
+    of(33);
+    is("surelyTaken()", x.surelyTaken(), 2);
+    x.spare(0, true);
+    of(28);
+    is("none fits", x.rows(), 0);
+    of(29);
+    is("could(0)", x.could(0), 0);
+    of(30);
+    is("surely(0)", x.surely(0), -2);
+    of(31);
+    is("ask()", x.ask(), -2);
+    of(32);
+    is("askLeaves()", x.askLeaves(), -2);
+    of(33);
+    is("surelyTaken()", x.surelyTaken(), 0);
+  }
+
+  @Edge(promise = 28, says = "went MAN (each once; up to 3)")
+  static void threeToldWhoFit() {
+    LowNumber x = told(3, "a plain 9 9 9", "b plain 9 9 9", "c lame 9 9 9", "d married 1 0 1", "e married 1 0 2", "f married 1 0 3",
+        "spares married", "went f", "went d", "went e");
+    is("rows()", x.rows(), 720);
+    of(29);
+    for (int k = 0; k < 3; k++) is("could " + k, x.could(k), 7);
+    of(30);
+    for (int k = 0; k < 3; k++) is("surely " + k, x.surely(k), -2);
+    of(31);
+    is("ask()", x.ask(), 0);
+    of(32);
+    is("askLeaves()", x.askLeaves(), 240);
+    of(33);
+    is("surelyTaken()", x.surelyTaken(), 7);
   }
 
   @Edge(promise = 29, says = "For whom the k-th told went, in some, as bits. NONE: 1.")
@@ -1727,6 +1872,42 @@ public final class LowNumberEdges {
     is("no coins", z.man(0, 2), 0);
   }
 
+  @Edge(promise = 44, says = "those who SEND pay at once")
+  static void oddsByCoinsNow() {
+    LowNumber x = told(1, "a plain 9 2 9", "b married 1 0 2", "spares married", "went b");
+    part("loss ahead of it", x.loss(0, false), x.loss(0, true), 2, 1);
+    part("harm ahead of it", x.harm(2, false), x.harm(2, true), 2, 1);
+    is("rows ahead of it", x.rows(), 2);
+    x.image();
+    x.hold();
+    part("loss, he can't pay", x.loss(0, false), x.loss(0, true), 9, 1);
+    part("harm, he can't pay", x.harm(2, false), x.harm(2, true), 9, 1);
+    is("rows, he can't pay", x.rows(), 0);
+    is("wouldGo, he can't pay", x.wouldGo(0), -2);
+    is("lossIn, he can't pay", x.lossIn(0, 10), 90);
+    of(49);
+    x.undo();
+    part("loss as it was", x.loss(0, false), x.loss(0, true), 2, 1);
+    part("harm as it was", x.harm(2, false), x.harm(2, true), 2, 1);
+    is("rows as it was", x.rows(), 2);
+    of(51);
+    x.hold();
+    part("loss behind it", x.loss(0, false), x.loss(0, true), 9, 1);
+    is("fills(1)", x.fills(1), 1);
+    is("fills(3)", x.fills(3), 0);
+    x.back(0);
+    part("loss by the image", x.loss(0, false), x.loss(0, true), 2, 1);
+    part("harm by the image", x.harm(2, false), x.harm(2, true), 2, 1);
+    of(42);
+    x.marry(0);
+    part("taken, married", x.taken(0, false), x.taken(0, true), 0, 1);
+    is("fills(1), both married", x.fills(1), 1);
+    is("fills(2), both married", x.fills(2), 0);
+    of(43);
+    x.spare(1, false);
+    part("taken, spared no more", x.taken(0, false), x.taken(0, true), 1, 2);
+  }
+
   @Edge(promise = 45, says = "DESERT: who goes now for himself. NONE: 1; 5 (he isn't SENT NOW).")
   static void desertIfSent() {
     LowNumber none = new LowNumber();
@@ -1782,6 +1963,11 @@ public final class LowNumberEdges {
     refusedOutside(x, 4, 1, x::fate);
     x.undo();
     for (int m = 0; m < 4; m++) is("undone", x.fate(m), 0);
+    LowNumber y = six(5);
+    y.seed(65536);
+    y.hold();
+    // the last of the row 2 3 5 0 1 4 is left out
+    for (int m = 0; m < 6; m++) is("of six " + m, y.fate(m), m == 4 ? 0 : 1);
   }
 
   @Edge(promise = 47, says = "The i-th of its ROW. NONE: 1 (none was held, too).")
@@ -1799,7 +1985,19 @@ public final class LowNumberEdges {
     for (int i = 0; i < 3; i++) is("lot " + i, x.lot(i), row[i]);
     fine(x);
     refusedOutside(x, 3, 1, x::lot);
+    x.seed(1);
+    x.hold();
+    for (int i = 0; i < 3; i++) is("the next one's lot " + i, x.lot(i), i);
+    x.image();
     x.undo();
+    for (int i = 0; i < 3; i++) is("lot " + i + " as ahead of it", x.lot(i), row[i]);
+    x.back(0);
+    for (int i = 0; i < 3; i++) is("lot " + i + " by the image", x.lot(i), i);
+    x.draft(0);
+    x.hold();
+    x.undo();
+    for (int i = 0; i < 3; i++) is("lot " + i + " behind a draft with a fault", x.lot(i), i);
+    read(x, ONE);
     refused(x, 1, () -> x.lot(0));
     LowNumber y = told(0, "a plain 1 1 1", "spares plain");
     y.hold();
@@ -2079,9 +2277,10 @@ public final class LowNumberEdges {
         () -> x.loss(0, true), () -> x.club(3, true), () -> x.ruin(3, 0, true), () -> x.toJoin(0), () -> x.toJoin(3), () -> x.shortOf(true),
         () -> x.ifMarried(0, true), () -> x.harm(0, true), () -> x.fills(0), x::bestLaw, x::toSpare, x::rows, () -> x.could(0),
         () -> x.surely(0), x::ask, x::askLeaves, x::surelyTaken, () -> x.believed(true, true), () -> x.wrong(true),
-        () -> x.agent(0, 0, 0, true), () -> x.rests(0), () -> x.rest(0), () -> x.drafts(0, 0, 1), () -> x.sentIn(0, 0, 1), () -> x.lossIn(0, 1),
+        () -> x.agent(0, 0, 0, true), () -> x.rests(0), () -> x.rest(0), () -> x.rest(5),
+        () -> x.drafts(0, 0, 1), () -> x.sentIn(0, 0, 1), () -> x.lossIn(0, 1),
         () -> x.marry(0) ? 1 : 0, () -> x.undo() ? 1 : 0, () -> x.spare(0, true) ? 1 : 0, () -> x.spare(0, false) ? 1 : 0, x::hold,
-        () -> x.desert(1), () -> x.fate(0), () -> x.lot(0), () -> x.seed(1) ? 1 : 0, x::image, () -> x.back(0) ? 1 : 0, () -> read(x, ONE));
+        () -> x.desert(1), () -> x.fate(0), () -> x.fate(1), () -> x.lot(0), () -> x.seed(1) ? 1 : 0, x::image, () -> x.back(0) ? 1 : 0, () -> read(x, ONE));
     for (LongSupplier call : calls) {
       x.many(7);
       call.getAsLong();

@@ -29,6 +29,7 @@ public final class LowNumberFace {
     face();
     names();
     text();
+    extremes();
     System.out.println(wrong == 0 ? "the face and the text keep to the rules" : wrong + " rules are broken");
     if (wrong != 0) System.exit(1);
   }
@@ -103,6 +104,55 @@ public final class LowNumberFace {
     while (m.find()) rule(m.group(1).equals("java.util.NoSuchElementException"), "imports " + m.group(1));
     rule(code.split("throw new", -1).length == 2, "only led throws");
     methodLengths(code.split("\n"));
+  }
+
+  /** Rule 7: no call throws by itself, whatever its arguments, without a draft, with one and with one held. */
+  private static void extremes() throws Exception {
+    int[] values = {Integer.MIN_VALUE, -65537, -101, -33, -1, 0, 1, 5, 6, 9, 10, 31, 32, 63, 64, 99, 100, 800, 999, 1000, 65536, 65537, Integer.MAX_VALUE};
+    for (Method m : LowNumber.class.getDeclaredMethods()) {
+      if (!Modifier.isPublic(m.getModifiers())) continue;
+      for (int state = 0; state < 4; state++) {
+        for (int value : values) {
+          // each argument alone has the value, then all have it
+          for (int at = 0; at <= m.getParameterCount(); at++) quiet(m, inState(state), value, at);
+        }
+      }
+    }
+  }
+
+  private static void quiet(Method m, LowNumber x, int value, int at) throws Exception {
+    Object[] arguments = new Object[m.getParameterCount()];
+    for (int i = 0; i < arguments.length; i++) {
+      boolean isFlag = m.getParameterTypes()[i] == boolean.class;
+      int v = at == i || at == arguments.length ? value : 0;
+      arguments[i] = isFlag ? (Object) (v % 2 == 0) : (Object) v;
+    }
+    try {
+      m.invoke(x, arguments);
+    } catch (java.lang.reflect.InvocationTargetException e) {
+      rule(m.getName().equals("led") && e.getCause().getClass() == java.util.NoSuchElementException.class,
+          m.getName() + " throws " + e.getCause() + " by " + List.of(arguments));
+    }
+  }
+
+  /** 0 new, 1 one man, 2 six men and all that a text can tell, 3 that with a draft held and images. */
+  private static LowNumber inState(int state) {
+    LowNumber x = new LowNumber();
+    StringBuilder s = new StringBuilder("draft takes 5;man a plain worth 9 coins 9 asks 1");
+    if (state >= 2) {
+      for (char c = 'b'; c <= 'f'; c++) s.append(";man ").append(c).append(" married worth 99 coins 200 asks 1");
+      s.append(";kin a b;kin a c;kin a d;kin a e;kin a f;kin b c;spares married;doctor hits 1 errs 1 share 1;went b;went c;went d");
+    }
+    while (s.length() % 20 != 0) s.append(' ');
+    for (int i = 0; state > 0 && i < s.length(); i += 20) x.feed(four(s, i), four(s, i + 4), four(s, i + 8), four(s, i + 12), four(s, i + 16));
+    if (state > 0) rule(x.draft(s.length()) == (state == 1 ? 1 : 6), "the draft of state " + state);
+    for (int i = 0; state == 3 && i < 17; i++) x.hold();
+    for (int i = 0; state == 3 && i < 3; i++) x.image();
+    return x;
+  }
+
+  private static int four(CharSequence s, int at) {
+    return s.charAt(at) << 24 | s.charAt(at + 1) << 16 | s.charAt(at + 2) << 8 | s.charAt(at + 3);
   }
 
   private static void methodLengths(String[] lines) {
